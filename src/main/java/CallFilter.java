@@ -185,9 +185,8 @@ public final class CallFilter {
         int kind;
         private int data;
 
-        Action(int kind, int data) {
+        Action(int kind) {
             this.kind = kind;
-            this.data = data;
         }
 
         static boolean isPossible(int kind, int data) {
@@ -254,7 +253,7 @@ public final class CallFilter {
     private static final class Rule {
         static final int CONDITIONS = 3;
 
-        final Action action = new Action(0, 0);
+        final Action action = new Action(0);
         int count;
         private int from;
         private int to;
@@ -294,8 +293,8 @@ public final class CallFilter {
     private static final class Policy {
         static final int RULES = 6;
 
-        final Action defaultAction = new Action(6, 0);
-        final Action foreignAction = new Action(0, 0);
+        final Action defaultAction = new Action(6);
+        final Action foreignAction = new Action(0);
         final Rule[] rules = new Rule[RULES];
         int count;
         private final int architecture;

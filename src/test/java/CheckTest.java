@@ -29,6 +29,7 @@ public final class CheckTest {
         unreachedInstructionsHaveFaultsToo();
         unsetOnAStraightWay();
         unsetOnOneOfTwoWays();
+        unsetWhereManyWaysMeet();
         unsetIsForEachWord();
         unreachedInstructionsAreNeverUnset();
         unreachedStoresDoNotCount();
@@ -224,6 +225,18 @@ public final class CheckTest {
                 Code.of(0x60, 1), RETURN);
         }
         due("a skip over the store", 602, Code.of(0x05, 1), Code.of(0x02, 1), Code.of(0x60, 1), RETURN);
+    }
+
+    private static void unsetWhereManyWaysMeet() {
+        long[] joins = {ADD, Code.of(0x05, 0), Code.of(0x15, 0, 0, 9), Code.of(0x4d, 0, 0, 9)};
+        for (long join : joins) {
+            due("the later way stores", 604, Code.of(0x15, 0, 1, 9), Code.of(0x05, 2), Code.of(0x02, 1), join,
+                Code.of(0x60, 1), RETURN);
+            due("the earlier way stores", 604, Code.of(0x15, 0, 2, 9), Code.of(0x02, 1), Code.of(0x05, 1), join,
+                Code.of(0x60, 1), RETURN);
+            due("both store", 0, Code.of(0x15, 0, 2, 9), Code.of(0x02, 1), Code.of(0x05, 2), Code.of(0x03, 1),
+                join, Code.of(0x60, 1), RETURN);
+        }
     }
 
     private static void unsetIsForEachWord() {

@@ -204,15 +204,18 @@ public final class RunTest {
         x.word(0, 4);
         ANSWERS.due("what changes later leaves it", 8, x.scratch(3));
         x.run();
-        ANSWERS.due("a refused run", -1, x.scratch(3));
-        ANSWERS.due("a refused run", -1, x.scratch(15));
+        for (int i = 0; i < 16; i++) {
+            ANSWERS.due("a refused run " + i, -1, x.scratch(i));
+        }
         Code.replace(x, Code.of(0x02, 1), RETURN);
         x.run();
         ANSWERS.due("of an earlier run", -1, x.scratch(3));
         ANSWERS.due("of this run", 0, x.scratch(1));
         Code.replace(x, RETURN);
         x.run();
-        ANSWERS.due("of an earlier run", -1, x.scratch(1));
+        for (int i = 0; i < 16; i++) {
+            ANSWERS.due("of an earlier run " + i, -1, x.scratch(i));
+        }
     }
 
     private static void scratchOutside() {
