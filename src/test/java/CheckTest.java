@@ -6,11 +6,6 @@ public final class CheckTest {
     private static final long BAD_JUMP = Code.of(0x05, 64);
     private static final long ADD = Code.of(0x04, 1);
     private static final long RETURN = Code.of(0x16, 0);
-    private static final int[] CODES = {
-        0x00, 0x20, 0x60, 0x80, 0x01, 0x61, 0x81, 0x02, 0x03, 0x07, 0x87, 0x84,
-        0x04, 0x14, 0x24, 0x34, 0x44, 0x54, 0xa4, 0x64, 0x74,
-        0x0c, 0x1c, 0x2c, 0x3c, 0x4c, 0x5c, 0xac, 0x6c, 0x7c,
-        0x05, 0x15, 0x25, 0x35, 0x45, 0x1d, 0x2d, 0x3d, 0x4d, 0x06, 0x16};
     private static final int[] CONDITIONAL = {0x15, 0x25, 0x35, 0x45, 0x1d, 0x2d, 0x3d, 0x4d};
 
     public static void main(String[] args) {
@@ -50,7 +45,7 @@ public final class CheckTest {
     private static void allCodes() {
         CallFilter x = new CallFilter(0);
         boolean[] known = new boolean[1 << 16];
-        for (int code : CODES) {
+        for (int code : Code.ALL) {
             known[code] = true;
         }
         for (int code = 0; code < known.length; code++) {
@@ -99,7 +94,7 @@ public final class CheckTest {
     }
 
     private static void operandsThatMayBeAnything() {
-        for (int code : CODES) {
+        for (int code : Code.ALL) {
             boolean looked = code == 0x20 || code == 0x60 || code == 0x61 || code == 0x02 || code == 0x03
                 || code == 0x64 || code == 0x74 || code == 0x05;
             if (!looked) {
@@ -154,7 +149,7 @@ public final class CheckTest {
     private static void theEnd() {
         due("06", 0, Code.of(0x06, 0));
         due("16", 0, RETURN);
-        for (int code : CODES) {
+        for (int code : Code.ALL) {
             boolean jumps = code % 8 == 5;
             boolean ends = code == 0x06 || code == 0x16;
             int wanted = jumps ? 401 : ends ? 0 : 501;

@@ -5,11 +5,6 @@ public final class ModelTest {
     private static final Answers ANSWERS = new Answers();
     private static final int OBJECTS = 3000;
     private static final int TURNS = 300;
-    private static final int[] CODES = {
-        0x00, 0x20, 0x60, 0x80, 0x01, 0x61, 0x81, 0x02, 0x03, 0x07, 0x87, 0x84,
-        0x04, 0x14, 0x24, 0x34, 0x44, 0x54, 0xa4, 0x64, 0x74,
-        0x0c, 0x1c, 0x2c, 0x3c, 0x4c, 0x5c, 0xac, 0x6c, 0x7c,
-        0x05, 0x15, 0x25, 0x35, 0x45, 0x1d, 0x2d, 0x3d, 0x4d, 0x06, 0x16};
     private static final int[] EDGES = {
         -1, 0, 1, 2, 5, 6, 7, 15, 16, 63, 64, 65535, 65536, (1 << 30) - 1, 1 << 30,
         Integer.MAX_VALUE, Integer.MIN_VALUE};
@@ -164,7 +159,7 @@ public final class ModelTest {
             return random.nextLong();
         }
         boolean stores = random.nextInt(4) == 0;
-        int code = stores ? pick(0x02, 0x03) : CODES[random.nextInt(CODES.length)];
+        int code = stores ? pick(0x02, 0x03) : Code.ALL[random.nextInt(Code.ALL.length)];
         return Code.of(code, random.nextInt(3), random.nextInt(3), operand(code));
     }
 
