@@ -4,7 +4,8 @@ import java.util.Random;
 public final class ModelTest {
     private static final Answers ANSWERS = new Answers();
     private static final int OBJECTS = 3000;
-    private static final int TURNS = 300;
+    private static final int CALLS = 512;
+    private static final int CALLS_OF_A_TURN = 5;
     private static final int[] EDGES = {
         -1, 0, 1, 2, 5, 6, 7, 15, 16, 63, 64, 65535, 65536, (1 << 30) - 1, 1 << 30,
         Integer.MAX_VALUE, Integer.MIN_VALUE};
@@ -14,6 +15,7 @@ public final class ModelTest {
     private final Model model;
     private final String name;
     private final int architecture;
+    private int calls = 0;
     private int runsDone = 0;
     private int matched = 0;
 
@@ -30,7 +32,7 @@ public final class ModelTest {
         long matched = 0;
         for (int seed = 0; seed < OBJECTS; seed++) {
             ModelTest test = new ModelTest(seed);
-            for (int turn = 0; turn < TURNS; turn++) {
+            while (test.calls + CALLS_OF_A_TURN <= CALLS) {
                 test.turn();
             }
             runsDone += test.runsDone;
@@ -41,6 +43,15 @@ public final class ModelTest {
         ANSWERS.due("enough programs ran", true, runsDone > 5L * OBJECTS);
         ANSWERS.due("enough rules were taken", true, matched > 2L * OBJECTS);
         ANSWERS.finish();
+    }
+
+    private void due(String call, long want, long got) {
+        calls++;
+        ANSWERS.due(name + call, want, got);
+    }
+
+    private void due(String call, boolean want, boolean got) {
+        due(call, want ? 1 : 0, got ? 1 : 0);
     }
 
     private void turn() {
@@ -63,13 +74,13 @@ public final class ModelTest {
         int i = some(16);
         boolean atHome = i == 1 && random.nextInt(3) != 0;
         int v = atHome ? architecture : i < 2 ? pick(0, 1, 2, 3, 1 << 30, -1) : (int) number();
-        ANSWERS.due(name + "word(" + i + ", " + v + ")", model.word(i, v), x.word(i, v));
+        due("word(" + i + ", " + v + ")", model.word(i, v), x.word(i, v));
     }
 
     private void setArgument() {
         int i = some(6);
         long v = number();
-        ANSWERS.due(name + "argument(" + i + ", " + v + ")", model.argument(i, v), x.argument(i, v));
+        due("argument(" + i + ", " + v + ")", model.argument(i, v), x.argument(i, v));
     }
 
     private void addRule() {
@@ -77,7 +88,7 @@ public final class ModelTest {
         int to = some(5);
         int kind = some(7);
         int data = some(9);
-        ANSWERS.due(name + "rule(" + from + ", " + to + ", " + kind + ", " + data + ")",
+        due("rule(" + from + ", " + to + ", " + kind + ", " + data + ")",
             model.rule(from, to, kind, data), x.rule(from, to, kind, data));
     }
 
@@ -86,7 +97,7 @@ public final class ModelTest {
         int operator = some(7);
         long value = number();
         long mask = number();
-        ANSWERS.due(name + "condition(" + i + ", " + operator + ", " + value + ", " + mask + ")",
+        due("condition(" + i + ", " + operator + ", " + value + ", " + mask + ")",
             model.condition(i, operator, value, mask), x.condition(i, operator, value, mask));
     }
 
@@ -94,27 +105,27 @@ public final class ModelTest {
         boolean foreign = random.nextBoolean();
         int kind = some(7);
         int data = some(9);
-        ANSWERS.due(name + "otherwise(" + foreign + ", " + kind + ", " + data + ")",
+        due("otherwise(" + foreign + ", " + kind + ", " + data + ")",
             model.otherwise(foreign, kind, data), x.otherwise(foreign, kind, data));
     }
 
     private void takeBack() {
-        ANSWERS.due(name + "withdraw()", model.withdraw(), x.withdraw());
+        due("withdraw()", model.withdraw(), x.withdraw());
     }
 
     private void askPolicy() {
         if (random.nextBoolean()) {
-            ANSWERS.due(name + "decide()", model.decide(), x.decide());
+            due("decide()", model.decide(), x.decide());
         } else {
             int ruling = x.ruling();
             matched += ruling >= 0 ? 1 : 0;
-            ANSWERS.due(name + "ruling()", model.ruling(), ruling);
+            due("ruling()", model.ruling(), ruling);
         }
     }
 
     private void putOne() {
         long instruction = instruction();
-        ANSWERS.due(name + "put(" + instruction + ")", model.put(instruction), x.put(instruction));
+        due("put(" + instruction + ")", model.put(instruction), x.put(instruction));
     }
 
     private void cutSome() {
@@ -122,7 +133,7 @@ public final class ModelTest {
     }
 
     private void cut(int n) {
-        ANSWERS.due(name + "cut(" + n + ")", model.cut(n), x.cut(n));
+        due("cut(" + n + ")", model.cut(n), x.cut(n));
     }
 
     /** A program of chance seldom runs: behind its least fault it is cut off, and ended. */
@@ -133,23 +144,23 @@ public final class ModelTest {
         }
         for (int i = 0; i < 3; i++) {
             long end = Code.of(0x16, 0);
-            ANSWERS.due(name + "put(" + end + ")", model.put(end), x.put(end));
+            due("put(" + end + ")", model.put(end), x.put(end));
         }
         run();
     }
 
     private void run() {
-        ANSWERS.due(name + "run()", model.run(), x.run());
+        due("run()", model.run(), x.run());
         runsDone += model.steps() > 2 ? 1 : 0;
     }
 
     private void askProgram() {
         int i = some(16);
         switch (random.nextInt(5)) {
-            case 0: ANSWERS.due(name + "length()", model.length(), x.length()); break;
-            case 1: ANSWERS.due(name + "check()", model.check(), x.check()); break;
-            case 2: ANSWERS.due(name + "steps()", model.steps(), x.steps()); break;
-            case 3: ANSWERS.due(name + "scratch(" + i + ")", model.scratch(i), x.scratch(i)); break;
+            case 0: due("length()", model.length(), x.length()); break;
+            case 1: due("check()", model.check(), x.check()); break;
+            case 2: due("steps()", model.steps(), x.steps()); break;
+            case 3: due("scratch(" + i + ")", model.scratch(i), x.scratch(i)); break;
             default: run(); break;
         }
     }

@@ -1,261 +1,377 @@
-/** Promises 14 (run), 15 (steps) and 16 (scratch). */
+import java.util.function.Consumer;
+
+/** Promises 14 (run), 15 (steps) and 16 (scratch), and the 512 calls. Over each test its sentence. */
 public final class RunTest {
     private static final Answers ANSWERS = new Answers();
     private static final long RETURN = Code.of(0x16, 0);
     private static final long MOST = 0xffffffffL;
-    private static final long[] NUMBERS = {
-        0, 1, 2, 3, 31, 32, 33, 63, 64, 0xffff, 0x10001, 0x7fffffffL, 0x80000000L, 0x80000001L, MOST - 1, MOST};
+
+    /** One program for each fault, with a good end before the fault where there is a way to one. */
+    private static final long[][] FAULTY = {
+        {},
+        {Code.of(0x06, 1), Code.of(0x08, 0), RETURN},
+        {Code.of(0x06, 1), Code.of(0x34, 0), RETURN},
+        {Code.of(0x06, 1), Code.of(0x05, 9), RETURN},
+        {Code.of(0x06, 1), Code.of(0x00, 1)},
+        {Code.of(0x15, 1, 0, 0), Code.of(0x60, 1), RETURN}};
 
     public static void main(String[] args) {
-        ends();
-        loads();
-        copies();
-        arithmetic();
-        divisionByZero();
-        negation();
-        skips();
-        conditionals();
-        everyRunBeginsAnew();
-        theRecordIsReadAsItIs();
-        noRunOfAFaultyProgram();
-        stepsOfTheLatestRun();
-        scratchOfTheLatestRun();
-        scratchOutside();
-        storedOnTheWayTakenAlone();
+        runAnswersItsValue();
+        runHasNoSign();
         rulesAreNotInTheProgram();
+        noneOfAFaultyProgram();
+        noneWithoutRunning();
+        runChangesNothingElse();
+        runAfterTheFaultIsMended();
+
+        stepsOfTheLatestRun();
+        stepsCountTheOneThatEnded();
+        stepsAtTheirLeastAndMost();
+        stepsWithoutRun();
+        stepsOfARefusedRun();
+        laterChangesLeaveStepsAndScratch();
+
+        scratchAtTheEndOfTheRun();
+        scratchHasNoSign();
+        scratchOfZero();
+        scratchNotStored();
+        scratchOfAnEarlierRun();
+        scratchOnTheWayTakenAlone();
+        scratchOfARefusedRun();
+        scratchBelowAndAbove();
+        askingChangesNothing();
+
+        the512thCall();
         ANSWERS.finish();
     }
 
-    private static void due(String what, long want, long... program) {
-        ANSWERS.due(what, want, Code.filter(program).run());
-    }
-
-    private static void ends() {
-        for (long k : NUMBERS) {
-            due("06 " + k, k, Code.of(0x06, k));
-            due("16 with " + k, k, Code.of(0x00, k), Code.of(0x16, 5));
-        }
-        due("A begins as 0", 0, RETURN);
-        due("X begins as 0", 0, Code.of(0x87, 0), RETURN);
-        due("06 with distances", 7, Code.of(0x06, 255, 255, 7));
-    }
-
-    private static void loads() {
-        due("00", 9, Code.of(0x00, 9), RETURN);
-        due("01", 9, Code.of(0x01, 9), Code.of(0x87, 0), RETURN);
-        due("01 is not A", 0, Code.of(0x01, 9), RETURN);
-        due("80", 64, Code.of(0x80, 5), RETURN);
-        due("81", 64, Code.of(0x81, 5), Code.of(0x87, 0), RETURN);
-        due("81 is not A", 0, Code.of(0x81, 5), RETURN);
-        for (int i = 0; i < 16; i++) {
-            due("02 and 60", 9, Code.of(0x00, 9), Code.of(0x02, i), Code.of(0x00, 1), Code.of(0x60, i), RETURN);
-            due("03 and 60", 9, Code.of(0x01, 9), Code.of(0x03, i), Code.of(0x60, i), RETURN);
-            due("02 and 61", 9, Code.of(0x00, 9), Code.of(0x02, i), Code.of(0x00, 1), Code.of(0x61, i),
-                Code.of(0x87, 0), RETURN);
-        }
-    }
-
-    private static void copies() {
-        due("07", 5, Code.of(0x00, 5), Code.of(0x07, 0), Code.of(0x00, 1), Code.of(0x87, 0), RETURN);
-        due("07 leaves A", 5, Code.of(0x00, 5), Code.of(0x07, 0), RETURN);
-        due("87 leaves X", 6, Code.of(0x01, 6), Code.of(0x87, 0), Code.of(0x00, 1), Code.of(0x87, 0), RETURN);
-    }
-
-    private static void arithmetic() {
-        int[] codes = {0x04, 0x14, 0x24, 0x34, 0x44, 0x54, 0xa4, 0x64, 0x74};
-        for (int code : codes) {
-            for (long a : NUMBERS) {
-                for (long y : NUMBERS) {
-                    boolean shifts = code == 0x64 || code == 0x74;
-                    long want = result(code, a, y);
-                    String what = Integer.toHexString(code) + " on " + a + " and " + y;
-                    if (!(code == 0x34 && y == 0) && !(shifts && y > 31)) {
-                        due(what, want, Code.of(0x00, a), Code.of(code, y), RETURN);
-                    }
-                    due(what + " as X", want, Code.of(0x01, y), Code.of(0x00, a), Code.of(code + 8, 77), RETURN);
-                }
-            }
-        }
-    }
-
-    private static long result(int code, long a, long y) {
-        switch (code) {
-            case 0x04: return (a + y) % (MOST + 1);
-            case 0x14: return (a - y + MOST + 1) % (MOST + 1);
-            case 0x24: return java.math.BigInteger.valueOf(a).multiply(java.math.BigInteger.valueOf(y))
-                .mod(java.math.BigInteger.ONE.shiftLeft(32)).longValueExact();
-            case 0x34: return y == 0 ? 0 : a / y;
-            case 0x44: return a | y;
-            case 0x54: return a & y;
-            case 0xa4: return a ^ y;
-            case 0x64: return (a << y % 32) % (MOST + 1);
-            default: return a >> y % 32;
-        }
-    }
-
-    private static void divisionByZero() {
-        CallFilter x = Code.filter(Code.of(0x00, 8), Code.of(0x02, 2), Code.of(0x3c, 5), Code.of(0x02, 3),
-            Code.of(0x06, 9));
-        ANSWERS.due("divided by X = 0", 0, x.run());
-        ANSWERS.due("steps", 3, x.steps());
-        ANSWERS.due("stored before", 8, x.scratch(2));
-        ANSWERS.due("not stored behind", -1, x.scratch(3));
-        due("0 divided by 0", 0, Code.of(0x3c, 5), Code.of(0x06, 9));
-        due("X is not 0", 9, Code.of(0x01, 1), Code.of(0x3c, 0), Code.of(0x06, 9));
-    }
-
-    private static void negation() {
-        for (long a : NUMBERS) {
-            due("84 on " + a, a == 0 ? 0 : MOST + 1 - a, Code.of(0x00, a), Code.of(0x84, 3), RETURN);
-        }
-    }
-
-    private static void skips() {
-        due("skip 0", 1, Code.of(0x05, 0), Code.of(0x06, 1), Code.of(0x06, 2), Code.of(0x06, 3));
-        due("skip 1", 2, Code.of(0x05, 1), Code.of(0x06, 1), Code.of(0x06, 2), Code.of(0x06, 3));
-        due("skip 2", 3, Code.of(0x05, 2), Code.of(0x06, 1), Code.of(0x06, 2), Code.of(0x06, 3));
-        due("skip with X", 2, Code.of(0x01, 2), Code.of(0x05, 1, 2, 1), Code.of(0x06, 1), Code.of(0x06, 2),
-            Code.of(0x06, 3));
-    }
-
-    private static void conditionals() {
-        for (int code : new int[] {0x15, 0x25, 0x35, 0x45}) {
-            for (long a : NUMBERS) {
-                for (long y : NUMBERS) {
-                    long want = holds(code, a, y) ? 11 : 12;
-                    String what = Integer.toHexString(code) + " on " + a + " and " + y;
-                    due(what, want, Code.of(0x00, a), Code.of(code, 1, 2, y), Code.of(0x06, 10),
-                        Code.of(0x06, 11), Code.of(0x06, 12));
-                    due(what + " as X", want, Code.of(0x01, y), Code.of(0x00, a), Code.of(code + 8, 1, 2, 77),
-                        Code.of(0x06, 10), Code.of(0x06, 11), Code.of(0x06, 12));
-                }
-            }
-        }
-    }
-
-    private static boolean holds(int code, long a, long y) {
-        switch (code) {
-            case 0x15: return a == y;
-            case 0x25: return a > y;
-            case 0x35: return a >= y;
-            default: return (a & y) != 0;
-        }
-    }
-
-    private static void everyRunBeginsAnew() {
-        CallFilter x = Code.filter(Code.of(0x04, 3), Code.of(0x0c, 0), Code.of(0x07, 0), RETURN);
-        for (int i = 0; i < 3; i++) {
-            ANSWERS.due("run " + i, 3, x.run());
-            ANSWERS.due("steps " + i, 4, x.steps());
-        }
-    }
-
-    private static void theRecordIsReadAsItIs() {
-        CallFilter x = new CallFilter(5);
-        x.word(1, 6);
-        x.word(0, -1);
-        ANSWERS.due("a foreign record", MOST, Code.wordOf(x, 0));
-        ANSWERS.due("its architecture", 6, Code.wordOf(x, 1));
-        x.word(1, 8);
-        ANSWERS.due("changed", 8, x.run());
-        x.argument(5, 7L << 32);
-        ANSWERS.due("the last word", 7, Code.wordOf(x, 15));
-    }
-
-    private static void noRunOfAFaultyProgram() {
-        due("empty", -1);
-        due("CODE", -1, Code.of(0x06, 1), Code.of(0x08, 0), RETURN);
-        due("OPERAND", -1, Code.of(0x06, 1), Code.of(0x34, 0), RETURN);
-        due("JUMP", -1, Code.of(0x06, 1), Code.of(0x05, 9), RETURN);
-        due("END", -1, Code.of(0x06, 1), Code.of(0x00, 1));
-        due("UNSET", -1, Code.of(0x15, 1, 0, 0), Code.of(0x60, 1), RETURN);
-    }
-
-    private static void stepsOfTheLatestRun() {
-        CallFilter x = Code.filter(Code.of(0x20, 0), Code.of(0x15, 1, 0, 4), Code.of(0x00, 2), RETURN);
-        ANSWERS.due("before a run", 0, x.steps());
-        ANSWERS.due("run", 2, x.run());
-        ANSWERS.due("the longer way", 4, x.steps());
-        x.word(0, 4);
-        ANSWERS.due("the record changes", 4, x.steps());
-        ANSWERS.due("run", 4, x.run());
-        ANSWERS.due("the shorter way", 3, x.steps());
+    // "Runs the program (what put() gave ..) on the record: its value"
+    private static void runAnswersItsValue() {
+        CallFilter x = Code.filter(Code.of(0x20, 0), Code.of(0x24, 3), RETURN);
+        x.word(0, 5);
+        ANSWERS.due("run()", 15, x.run());
+        x.word(0, 6);
+        ANSWERS.due("on another record", 18, x.run());
         x.cut(1);
-        x.check();
-        ANSWERS.due("a cut leaves it", 3, x.steps());
-        ANSWERS.due("run", -1, x.run());
-        ANSWERS.due("refused", 0, x.steps());
+        x.put(Code.of(0x04, 1));
         x.put(RETURN);
-        ANSWERS.due("mended, not run", 0, x.steps());
-        x.run();
-        ANSWERS.due("run again", 3, x.steps());
+        ANSWERS.due("another program", 19, x.run());
     }
 
-    private static void scratchOfTheLatestRun() {
-        CallFilter x = Code.filter(Code.of(0x00, MOST), Code.of(0x02, 0), Code.of(0x03, 15), Code.of(0x00, 7),
-            Code.of(0x02, 3), Code.of(0x00, 8), Code.of(0x02, 3), RETURN);
-        ANSWERS.due("before a run", -1, x.scratch(0));
-        x.run();
-        ANSWERS.due("without sign", MOST, x.scratch(0));
-        ANSWERS.due("0 as well", 0, x.scratch(15));
-        ANSWERS.due("the later store", 8, x.scratch(3));
-        ANSWERS.due("not stored", -1, x.scratch(1));
-        x.cut(1);
+    // "its value, without sign": 2^32 - 1 is not NONE
+    private static void runHasNoSign() {
+        for (long v : new long[] {0, 1, 0x7fffffffL, 0x80000000L, MOST - 1, MOST}) {
+            CallFilter x = Code.filter(Code.of(0x06, v));
+            ANSWERS.due("06 with " + v, v, x.run());
+            ANSWERS.due("its steps", 1, x.steps());
+            ANSWERS.due("16 with " + v, v, Code.filter(Code.of(0x00, v), RETURN).run());
+        }
+    }
+
+    // "(.. rules are not in it)"
+    private static void rulesAreNotInTheProgram() {
+        CallFilter x = new CallFilter(0);
+        x.rule(0, 9, 3, 1);
+        x.otherwise(true, 2, 2);
+        ANSWERS.due("length()", 0, x.length());
+        ANSWERS.due("check()", 100, x.check());
+        ANSWERS.due("run()", CallFilter.NONE, x.run());
+        x.put(Code.of(0x06, 4));
+        ANSWERS.due("run()", 4, x.run());
+        ANSWERS.due("decide()", 0x50001L, x.decide());
+        ANSWERS.due("steps()", 1, x.steps());
+        x.word(1, 1);
+        ANSWERS.due("run() on a foreign record", 4, x.run());
+    }
+
+    // "NONE, without running, when check() is not 0"
+    private static void noneOfAFaultyProgram() {
+        for (int i = 0; i < FAULTY.length; i++) {
+            CallFilter x = Code.filter(FAULTY[i]);
+            ANSWERS.due("the fault", i + 1, x.check() / 100);
+            ANSWERS.due("run() with fault " + (i + 1), CallFilter.NONE, x.run());
+            ANSWERS.due("steps()", 0, x.steps());
+        }
+    }
+
+    // "NONE, without running": nothing but the latest run's steps and scratch is another afterwards
+    private static void noneWithoutRunning() {
+        for (Scene scene : new Scene[] {Scene.NEW, Scene.CHANGED, Scene.REFUSED}) {
+            CallFilter x = scene.object();
+            ANSWERS.due(scene + ": run()", CallFilter.NONE, x.run());
+            ANSWERS.due(scene + ": run() again", CallFilter.NONE, x.run());
+            ANSWERS.due(scene + ": steps()", 0, x.steps());
+            for (int i = 0; i < 16; i++) {
+                ANSWERS.due(scene + ": scratch(" + i + ")", CallFilter.NONE, x.scratch(i));
+            }
+            ANSWERS.due(scene + ": after run()", Portrait.withoutTheLatestRun(scene.object()),
+                Portrait.withoutTheLatestRun(x));
+        }
+    }
+
+    private static void runChangesNothingElse() {
+        for (Scene scene : new Scene[] {Scene.USED, Scene.FULL}) {
+            CallFilter x = scene.object();
+            x.run();
+            x.run();
+            ANSWERS.due(scene + ": after two runs more", Portrait.whole(scene.object()), Portrait.whole(x));
+        }
+    }
+
+    private static void runAfterTheFaultIsMended() {
+        CallFilter x = Code.filter(Code.of(0x00, 7), Code.of(0x02, 1));
+        ANSWERS.due("without end", CallFilter.NONE, x.run());
+        x.put(RETURN);
+        ANSWERS.due("with its end", 7, x.run());
+        ANSWERS.due("steps()", 3, x.steps());
+        ANSWERS.due("scratch(1)", 7, x.scratch(1));
+    }
+
+    // "How many instructions were done in the latest run"
+    private static void stepsOfTheLatestRun() {
+        CallFilter x = Code.filter(Code.of(0x20, 0), Code.of(0x15, 2, 0, 4), Code.of(0x00, 2), Code.of(0x04, 1),
+            RETURN);
+        ANSWERS.due("run()", 3, x.run());
+        ANSWERS.due("the longer way", 5, x.steps());
         x.word(0, 4);
-        ANSWERS.due("what changes later leaves it", 8, x.scratch(3));
-        x.run();
-        for (int i = 0; i < 16; i++) {
-            ANSWERS.due("a refused run " + i, -1, x.scratch(i));
-        }
-        Code.replace(x, Code.of(0x02, 1), RETURN);
-        x.run();
-        ANSWERS.due("of an earlier run", -1, x.scratch(3));
-        ANSWERS.due("of this run", 0, x.scratch(1));
-        Code.replace(x, RETURN);
-        x.run();
-        for (int i = 0; i < 16; i++) {
-            ANSWERS.due("of an earlier run " + i, -1, x.scratch(i));
+        ANSWERS.due("run()", 4, x.run());
+        ANSWERS.due("the shorter way", 3, x.steps());
+        ANSWERS.due("asked again", 3, x.steps());
+    }
+
+    // "the one that ended it too"
+    private static void stepsCountTheOneThatEnded() {
+        long[][] ends = {{Code.of(0x06, 1), RETURN}, {RETURN, RETURN}, {Code.of(0x3c, 0), RETURN}};
+        for (long[] end : ends) {
+            CallFilter x = Code.filter(Code.of(0x04, 1), Code.of(0x05, 0), end[0], end[1]);
+            x.run();
+            ANSWERS.due("steps()", 3, x.steps());
         }
     }
 
-    private static void scratchOutside() {
+    // The same sentence: a run does at least one instruction, and at most the 64 of the program.
+    private static void stepsAtTheirLeastAndMost() {
+        CallFilter x = Code.filter(RETURN);
+        x.run();
+        ANSWERS.due("the least", 1, x.steps());
+        CallFilter y = new CallFilter(0);
+        for (int i = 0; i < 63; i++) {
+            y.put(Code.of(0x05, 0));
+        }
+        y.put(RETURN);
+        y.run();
+        ANSWERS.due("the most", 64, y.steps());
+        y.cut(1);
+        y.put(Code.of(0x06, 3));
+        ANSWERS.due("run()", 3, y.run());
+        ANSWERS.due("the most again", 64, y.steps());
+    }
+
+    // "0 when there was no run yet"
+    private static void stepsWithoutRun() {
+        CallFilter x = new CallFilter(0);
+        ANSWERS.due("new", 0, x.steps());
+        x.put(RETURN);
+        ANSWERS.due("with a program", 0, x.steps());
+        x.check();
+        ANSWERS.due("checked", 0, x.steps());
+        x.decide();
+        ANSWERS.due("decided", 0, x.steps());
+        x.run();
+        ANSWERS.due("run", 1, x.steps());
+    }
+
+    // "or the latest call of run answered NONE"
+    private static void stepsOfARefusedRun() {
+        for (long[] faulty : FAULTY) {
+            CallFilter x = Code.filter(Code.of(0x02, 1), RETURN);
+            x.run();
+            ANSWERS.due("run", 2, x.steps());
+            Code.replace(x, faulty);
+            ANSWERS.due("not run again", 2, x.steps());
+            x.run();
+            ANSWERS.due("refused", 0, x.steps());
+            Code.replace(x, RETURN);
+            ANSWERS.due("mended, not run", 0, x.steps());
+            x.run();
+            ANSWERS.due("run again", 1, x.steps());
+        }
+    }
+
+    // "(what changes later leaves it)"
+    private static void laterChangesLeaveStepsAndScratch() {
+        leavesTheLatestRun("word()", x -> x.word(0, 5));
+        leavesTheLatestRun("argument()", x -> x.argument(0, 5));
+        leavesTheLatestRun("rule()", x -> x.rule(0, 9, 0, 0));
+        leavesTheLatestRun("condition()", x -> x.condition(0, 0, 5, 0));
+        leavesTheLatestRun("otherwise()", x -> x.otherwise(false, 0, 0));
+        leavesTheLatestRun("withdraw()", CallFilter::withdraw);
+        leavesTheLatestRun("put()", x -> x.put(Code.of(0x08, 0)));
+        leavesTheLatestRun("cut()", x -> x.cut(1));
+        leavesTheLatestRun("cut(all)", x -> x.cut(x.length()));
+        leavesTheLatestRun("another program", x -> Code.replace(x, Code.of(0x02, 5), RETURN));
+        leavesTheLatestRun("check() of a fault", x -> {
+            x.cut(1);
+            x.check();
+        });
+    }
+
+    private static void leavesTheLatestRun(String what, Consumer<CallFilter> change) {
+        CallFilter x = Scene.USED.object();
+        change.accept(x);
+        ANSWERS.due("steps() after " + what, 7, x.steps());
+        for (int i = 0; i < 16; i++) {
+            long want = i == 0 ? 4 : i == 15 ? MOST : CallFilter.NONE;
+            ANSWERS.due("scratch(" + i + ") after " + what, want, x.scratch(i));
+        }
+    }
+
+    // "Scratch word i at the end of the latest run"
+    private static void scratchAtTheEndOfTheRun() {
         CallFilter x = new CallFilter(0);
         for (int i = 0; i < 16; i++) {
             x.put(Code.of(0x00, i + 100));
             x.put(Code.of(0x02, i));
         }
+        x.put(Code.of(0x02, 0));
+        x.put(Code.of(0x01, 9));
+        x.put(Code.of(0x03, 7));
         x.put(RETURN);
         x.run();
         for (int i = 0; i < 16; i++) {
-            ANSWERS.due("scratch " + i, i + 100, x.scratch(i));
-        }
-        for (int i : new int[] {-1, 16, 17, 32, -16, -32, Integer.MIN_VALUE, Integer.MAX_VALUE}) {
-            ANSWERS.due("scratch " + i, -1, x.scratch(i));
+            ANSWERS.due("scratch(" + i + ")", i == 0 ? 115 : i == 7 ? 9 : i + 100, x.scratch(i));
         }
     }
 
-    private static void storedOnTheWayTakenAlone() {
+    // "without sign": 2^32 - 1 is not NONE
+    private static void scratchHasNoSign() {
+        for (long v : new long[] {0x7fffffffL, 0x80000000L, MOST - 1, MOST}) {
+            CallFilter x = Code.filter(Code.of(0x00, v), Code.of(0x02, 0), Code.of(0x01, v), Code.of(0x03, 15), RETURN);
+            x.run();
+            ANSWERS.due("scratch(0)", v, x.scratch(0));
+            ANSWERS.due("scratch(15)", v, x.scratch(15));
+        }
+    }
+
+    // "(0 as well, if that was stored)"
+    private static void scratchOfZero() {
+        for (int i = 0; i < 16; i++) {
+            for (int store : new int[] {0x02, 0x03}) {
+                CallFilter x = Code.filter(Code.of(store, i), RETURN);
+                x.run();
+                ANSWERS.due("scratch(" + i + ") of 0", 0, x.scratch(i));
+            }
+        }
+    }
+
+    // "NONE when that run did not store it"
+    private static void scratchNotStored() {
+        for (int stored = 0; stored < 16; stored++) {
+            CallFilter x = Code.filter(Code.of(0x04, 5), Code.of(0x02, stored), RETURN);
+            x.run();
+            for (int i = 0; i < 16; i++) {
+                ANSWERS.due("scratch(" + i + ")", i == stored ? 5 : CallFilter.NONE, x.scratch(i));
+            }
+        }
+    }
+
+    // "that run": not one before it
+    private static void scratchOfAnEarlierRun() {
+        CallFilter x = Code.filter(Code.of(0x04, 5), Code.of(0x02, 3), RETURN);
+        x.run();
+        Code.replace(x, Code.of(0x02, 1), RETURN);
+        ANSWERS.due("before the later run", 5, x.scratch(3));
+        x.run();
+        ANSWERS.due("of the earlier run", CallFilter.NONE, x.scratch(3));
+        ANSWERS.due("of the later run", 0, x.scratch(1));
+        Code.replace(x, RETURN);
+        x.run();
+        for (int i = 0; i < 16; i++) {
+            ANSWERS.due("scratch(" + i + ") of none", CallFilter.NONE, x.scratch(i));
+        }
+    }
+
+    // "that run did not store it": the way it took
+    private static void scratchOnTheWayTakenAlone() {
         CallFilter x = Code.filter(Code.of(0x20, 0), Code.of(0x15, 0, 2, 1), Code.of(0x02, 1), RETURN,
             Code.of(0x02, 2), RETURN);
         x.word(0, 1);
         x.run();
         ANSWERS.due("stored", 1, x.scratch(1));
-        ANSWERS.due("on the other way", -1, x.scratch(2));
+        ANSWERS.due("on the other way", CallFilter.NONE, x.scratch(2));
         x.word(0, 5);
         x.run();
-        ANSWERS.due("on the other way", -1, x.scratch(1));
+        ANSWERS.due("on the other way", CallFilter.NONE, x.scratch(1));
         ANSWERS.due("stored", 5, x.scratch(2));
     }
 
-    private static void rulesAreNotInTheProgram() {
+    // "NONE when .. steps() is 0"
+    private static void scratchOfARefusedRun() {
+        for (long[] faulty : FAULTY) {
+            CallFilter x = Scene.USED.object();
+            Code.replace(x, faulty);
+            ANSWERS.due("before the refused run", MOST, x.scratch(15));
+            x.run();
+            for (int i = 0; i < 16; i++) {
+                ANSWERS.due("scratch(" + i + ") of a refused run", CallFilter.NONE, x.scratch(i));
+            }
+        }
+    }
+
+    // "or i is not 0 .. 15"
+    private static void scratchBelowAndAbove() {
         CallFilter x = new CallFilter(0);
-        x.rule(0, 9, 3, 1);
-        ANSWERS.due("length", 0, x.length());
-        ANSWERS.due("check", 100, x.check());
-        ANSWERS.due("run", -1, x.run());
-        x.put(Code.of(0x06, 4));
-        ANSWERS.due("run", 4, x.run());
-        ANSWERS.due("decide", 0x50001L, x.decide());
-        ANSWERS.due("steps stay", 1, x.steps());
+        for (int i = 0; i < 16; i++) {
+            x.put(Code.of(0x02, i));
+        }
+        x.put(RETURN);
+        x.run();
+        ANSWERS.due("scratch(0)", 0, x.scratch(0));
+        ANSWERS.due("scratch(15)", 0, x.scratch(15));
+        int[] outside = {-1, -2, -16, -17, -32, Integer.MIN_VALUE, 16, 17, 31, 32, 47, 48, Integer.MAX_VALUE};
+        for (int i : outside) {
+            ANSWERS.due("scratch(" + i + ")", CallFilter.NONE, x.scratch(i));
+        }
+        for (int i = 0; i < 16; i++) {
+            ANSWERS.due("scratch(" + i + ") after them", 0, x.scratch(i));
+        }
+    }
+
+    private static void askingChangesNothing() {
+        for (Scene scene : Scene.values()) {
+            CallFilter x = scene.object();
+            for (int i = -1; i <= 16; i++) {
+                x.scratch(i);
+            }
+            x.steps();
+            ANSWERS.due(scene + ": after steps() and scratch()", Portrait.whole(scene.object()), Portrait.whole(x));
+        }
+    }
+
+    // "An object is used for at most 512 calls after it has been made": the 512th is answered like the first.
+    private static void the512thCall() {
+        CallFilter x = new CallFilter(0);
+        int calls = 0;
+        while (calls < 500) {
+            int k = calls;
+            ANSWERS.due("put()", true, x.put(Code.of(0x06, k)));
+            ANSWERS.due("run()", k, x.run());
+            ANSWERS.due("cut()", 0, x.cut(1));
+            ANSWERS.due("rule()", 0, x.rule(0, k, 2, k));
+            ANSWERS.due("withdraw()", 0, x.withdraw());
+            calls += 5;
+        }
+        ANSWERS.due("call 501", 0, x.rule(0, 0, 3, 9));
+        ANSWERS.due("call 502", true, x.condition(5, 0, 1, 0));
+        ANSWERS.due("call 503", true, x.put(Code.of(0x20, 56)));
+        ANSWERS.due("call 504", true, x.put(Code.of(0x02, 15)));
+        ANSWERS.due("call 505", true, x.put(RETURN));
+        ANSWERS.due("call 506", true, x.argument(5, 1));
+        ANSWERS.due("call 507", 0x50009L, x.decide());
+        ANSWERS.due("call 508", 0, x.ruling());
+        ANSWERS.due("call 509", 0, x.check());
+        ANSWERS.due("call 510", 1, x.run());
+        ANSWERS.due("call 511", 3, x.steps());
+        ANSWERS.due("call 512", 1, x.scratch(15));
     }
 }
