@@ -76,6 +76,9 @@ public final class FaceTest {
                 names.add(m.getName());
             }
         }
+        for (Method m : CallFilter.class.getDeclaredMethods()) {
+            ANSWERS.due(m + " bears a public name", isOpen(m), names.contains(m.getName()));
+        }
         for (Class<?> inside : CallFilter.class.getDeclaredClasses()) {
             ANSWERS.due(inside + " is static", true, Modifier.isStatic(inside.getModifiers()));
             ANSWERS.due(inside + " is public", false, Modifier.isPublic(inside.getModifiers()));

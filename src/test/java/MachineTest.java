@@ -23,6 +23,7 @@ public final class MachineTest {
         runBeginsWithZeros();
         everyRunBeginsAnew();
         theNextOneIsDone();
+        anInstructionChangesWhatItSaysAlone();
 
         loadsOfNumbers();
         loadsOfTheRecord();
@@ -193,17 +194,54 @@ public final class MachineTest {
         }
     }
 
+    // The codes say what becomes of A, of X or of one scratch word: the others stay.
+    private static void anInstructionChangesWhatItSaysAlone() {
+        for (int code : Code.ALL) {
+            boolean jumps = code % 8 == 5;
+            boolean ends = code % 8 == 6;
+            CallFilter x = Code.filter(Code.of(0x00, 7), Code.of(0x02, 4), Code.of(0x02, 5), Code.of(0x01, 6),
+                Code.of(0x00, 5), Code.of(code, jumps ? 0 : 4), Code.of(0x02, 14), Code.of(0x03, 15), RETURN);
+            x.word(1, 9);
+            x.run();
+            String after = " after " + Integer.toHexString(code);
+            ANSWERS.due("A" + after, ends ? CallFilter.NONE : aAfter(code), x.scratch(14));
+            ANSWERS.due("X" + after, ends ? CallFilter.NONE : xAfter(code), x.scratch(15));
+            ANSWERS.due("scratch word 4" + after, code == 0x02 ? 5 : code == 0x03 ? 6 : 7, x.scratch(4));
+            ANSWERS.due("scratch word 5" + after, 7, x.scratch(5));
+            ANSWERS.due("scratch word 6" + after, CallFilter.NONE, x.scratch(6));
+        }
+    }
+
+    /** With A = 5, X = 6, k = 4, word 1 = 9 and scratch word 4 = 7. */
+    private static long aAfter(int code) {
+        switch (code) {
+            case 0x00: return 4;
+            case 0x20: return 9;
+            case 0x60: return 7;
+            case 0x80: return 64;
+            case 0x87: return 6;
+            case 0x84: return MOST - 4;
+            default: return code % 8 == 4 ? result(code & 0xf7, 5, (code & 8) == 0 ? 4 : 6) : 5;
+        }
+    }
+
+    private static long xAfter(int code) {
+        switch (code) {
+            case 0x01: return 4;
+            case 0x61: return 7;
+            case 0x81: return 64;
+            case 0x07: return 5;
+            default: return 6;
+        }
+    }
+
     // "00 A = k", "01 X = k", "80 A = 64", "81 X = 64"
     private static void loadsOfNumbers() {
         for (long k : NUMBERS) {
             due("00", k, Code.of(0x00, k), RETURN);
-            due("00 leaves X", 7, Code.of(0x01, 7), Code.of(0x00, k), X_TO_A, RETURN);
             due("01", k, Code.of(0x01, k), X_TO_A, RETURN);
-            due("01 leaves A", 7, Code.of(0x00, 7), Code.of(0x01, k), RETURN);
             due("80", 64, Code.of(0x80, k), RETURN);
-            due("80 leaves X", 7, Code.of(0x01, 7), Code.of(0x80, k), X_TO_A, RETURN);
             due("81", 64, Code.of(0x81, k), X_TO_A, RETURN);
-            due("81 leaves A", 7, Code.of(0x00, 7), Code.of(0x81, k), RETURN);
         }
     }
 
@@ -216,28 +254,21 @@ public final class MachineTest {
         for (int i = 0; i < 16; i++) {
             ANSWERS.due("20 with " + 4 * i, MOST - i, Code.wordOf(x, i));
         }
-        Code.replace(x, Code.of(0x01, 7), Code.of(0x20, 4), X_TO_A, RETURN);
-        ANSWERS.due("20 leaves X", 7, x.run());
     }
 
     // "60 A = scratch word k", "61 X = scratch word k", "02 scratch word k = A", "03 scratch word k = X"
     private static void loadsAndStoresOfScratch() {
         for (int i = 0; i < 16; i++) {
             due("02 and 60", 9, Code.of(0x00, 9), Code.of(0x02, i), Code.of(0x00, 1), Code.of(0x60, i), RETURN);
-            due("02 leaves A", 9, Code.of(0x00, 9), Code.of(0x02, i), RETURN);
             due("03 and 60", 9, Code.of(0x01, 9), Code.of(0x03, i), Code.of(0x60, i), RETURN);
-            due("03 leaves X", 9, Code.of(0x01, 9), Code.of(0x03, i), X_TO_A, RETURN);
             due("02 and 61", 9, Code.of(0x00, 9), Code.of(0x02, i), Code.of(0x61, i), Code.of(0x00, 1), X_TO_A, RETURN);
-            due("61 leaves A", 1, Code.of(0x00, 9), Code.of(0x02, i), Code.of(0x00, 1), Code.of(0x61, i), RETURN);
-            due("60 leaves X", 1, Code.of(0x01, 1), Code.of(0x00, 9), Code.of(0x02, i), Code.of(0x60, i), X_TO_A,
-                RETURN);
         }
         CallFilter x = new CallFilter(0);
         for (int i = 0; i < 16; i++) {
             x.put(Code.of(0x04, i + 1));
             x.put(Code.of(0x02, i));
         }
-        for (int i = 0; i < 14; i++) {
+        for (int i = 0; i < 16; i++) {
             x.put(Code.of(0x60, i));
             x.put(Code.of(0x16, 0));
             ANSWERS.due("word " + i + " of sixteen", (i + 1) * (i + 2) / 2, x.run());
@@ -248,9 +279,7 @@ public final class MachineTest {
     // "07 X = A", "87 A = X"
     private static void copies() {
         due("07", 5, Code.of(0x00, 5), Code.of(0x07, 0), Code.of(0x00, 1), X_TO_A, RETURN);
-        due("07 leaves A", 5, Code.of(0x00, 5), Code.of(0x07, 0), RETURN);
         due("87", 6, Code.of(0x01, 6), Code.of(0x87, 9), RETURN);
-        due("87 leaves X", 6, Code.of(0x01, 6), X_TO_A, Code.of(0x00, 1), X_TO_A, RETURN);
     }
 
     // "84 A = 0 - A"
@@ -283,7 +312,6 @@ public final class MachineTest {
                     dueOfX(code, a, x, result(code, a, x));
                 }
             }
-            due("X stays", 5, Code.of(0x01, 5), Code.of(code + 8, 9), X_TO_A, RETURN);
         }
     }
 

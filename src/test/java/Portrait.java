@@ -71,8 +71,13 @@ final class Portrait {
         askLatestRun();
         tell("put()", x.put(Code.of(0x06, 77)));
         tell("run() with one more", x.run());
-        tell("cut(1)", x.cut(1));
-        tell("check() without it", x.check());
+        for (int i = 0; i < 3; i++) {
+            tell("cut(1)", x.cut(1));
+            tell("check() without the last", x.check());
+            tell("cut(1)", x.cut(1));
+            tell("put()", x.put(Code.of(0x16, 0)));
+            tell("run() with an earlier end", x.run());
+        }
         tell("cut(all)", x.cut(x.length()));
     }
 

@@ -130,9 +130,16 @@ public final class RecordTest {
         }
         x.decide();
         x.rule(0, LAST_NUMBER, 1, 0);
+        x.condition(0, 0, 5, 7);
         x.ruling();
-        Code.replace(x, Code.of(0x02, 4), Code.of(0x03, 5), Code.of(0x3c, 0), Code.of(0x16, 0));
+        x.otherwise(true, 2, 5);
+        x.check();
         x.run();
+        Code.replace(x, Code.of(0x02, 4), Code.of(0x03, 5), Code.of(0x3c, 0), Code.of(0x16, 0));
+        x.check();
+        x.run();
+        x.steps();
+        x.scratch(4);
         x.withdraw();
         for (int i = 0; i < 16; i++) {
             ANSWERS.due("word " + i + " after use", 1000 + i, Code.wordOf(x, i));

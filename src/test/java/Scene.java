@@ -30,7 +30,7 @@ enum Scene {
         CallFilter object() {
             CallFilter x = USED.object();
             x.cut(1);
-            x.word(0, 5);
+            x.word(0, 6);
             x.withdraw();
             return x;
         }
