@@ -11,7 +11,7 @@ import java.util.TreeSet;
 import java.util.regex.Matcher;
 import java.util.regex.Pattern;
 
-/** The rules of LANGUAGE.md that the text of the class shows; FaceTest has those that reflection shows. */
+/** Rules of LANGUAGE.md that the text of the class shows: words, library calls, sizes, where objects are made. */
 public final class LanguageTest {
     private static final Answers ANSWERS = new Answers();
     private static final Path SOURCE = Path.of("src/main/java/CallFilter.java");
